@@ -581,7 +581,7 @@ public final class ClothPlay {
         }
     }
 
-    /** The CLAUSES of a PLAY but the "beat" ones, as steps for a stack: an operation in four bits, what it needs above. */
+    /** The laws of a PLAY as steps for a stack: the operation in four bits, what it needs above them. */
     private static final class Script {
         static final int CLAUSES = 24;
         // No TOKEN makes more than one of them.
@@ -837,8 +837,13 @@ public final class ClothPlay {
                     return token == '+' ? Script.ADD : token == '-' ? Script.SUBTRACT : NONE;
                 case TERM_LEVEL:
                     return token == '*' ? Script.MULTIPLY : token == '/' ? Script.DIVIDE : NONE;
+                case PLAIN_LEVEL:
+                    return token == '<' ? Script.BELOW
+                        : token == '>' ? Script.ABOVE
+                        : token == '=' ? Script.SAME
+                        : NONE;
                 default:
-                    return token == '<' ? Script.BELOW : token == '>' ? Script.ABOVE : token == '=' ? Script.SAME : NONE;
+                    return NONE;
             }
         }
 
@@ -1212,7 +1217,7 @@ public final class ClothPlay {
             ways[now][0] = 1;
             for (int holder = 0; holder < HOLDERS; holder++) {
                 if (holder < helpers || holder == ON_HOOKS) {
-                    spreadWays(can[beat * HOLDERS + holder], ways[now], ways[1 - now]);
+                    spreadWays(can[beat * HOLDERS + holder], ons[beat], ways[now], ways[1 - now]);
                     now = 1 - now;
                 }
             }
@@ -1246,20 +1251,17 @@ public final class ClothPlay {
             long sets = 1L;
             for (int holder = 0; holder < HOLDERS; holder++) {
                 if (holder < helpers || holder == ON_HOOKS) {
-                    sets = spread(sets, can[beat * HOLDERS + holder]);
+                    sets = spread(sets, can[beat * HOLDERS + holder], ons[beat]);
                 }
             }
             return sets;
         }
 
-        private static long spread(long sets, long more) {
-            if (more == 1L) {
-                return sets;
-            }
+        private static long spread(long sets, long more, int within) {
             long wider = 0L;
-            for (int set = 0; set < SETS; set++) {
+            for (int set = 0; set <= within; set++) {
                 int part = set;
-                for (int k = 0; k < SETS; k++) {
+                for (int k = 0; k < SETS && (set & ~within) == 0; k++) {
                     if ((more >>> part & sets >>> (set ^ part) & 1L) == 1L) {
                         wider |= 1L << set;
                         break;
@@ -1273,11 +1275,11 @@ public final class ClothPlay {
             return wider;
         }
 
-        private static void spreadWays(long more, int[] from, int[] to) {
-            for (int set = 0; set < SETS; set++) {
+        private static void spreadWays(long more, int within, int[] from, int[] to) {
+            for (int set = 0; set <= within; set++) {
                 int sum = 0;
                 int part = set;
-                for (int k = 0; k < SETS; k++) {
+                for (int k = 0; k < SETS && (set & ~within) == 0; k++) {
                     if ((more >>> part & 1L) == 1L) {
                         sum += from[set ^ part];
                     }
@@ -1318,7 +1320,7 @@ public final class ClothPlay {
 
         private long setsFor(int holder, int allowed) {
             long sets = 0L;
-            for (int set = 0; set < SETS; set++) {
+            for (int set = 0; set <= allowed; set++) {
                 if ((set & ~allowed) != 0) {
                     continue;
                 }
@@ -1491,12 +1493,12 @@ public final class ClothPlay {
             for (int o = 0; o < outer; o++) {
                 for (int out = 0; out < outs; out++) {
                     for (int i = 0; i < inner; i++) {
-                        long best = NO_WAY;
+                        long sum = NO_WAY;
                         for (int in = 0; in < ins; in++) {
                             long cost = row == NONE ? 0 : costs[row + out * HOLDERS + in];
-                            best = either(best, from[(o * ins + in) * inner + i] + (cost << COST));
+                            sum = either(sum, from[(o * ins + in) * inner + i] + (cost << COST));
                         }
-                        to[(o * outs + out) * inner + i] = best;
+                        to[(o * outs + out) * inner + i] = sum;
                     }
                 }
             }
@@ -1649,8 +1651,9 @@ public final class ClothPlay {
         long union = 0L;
         final long[] masks = new long[MANY];
         final int[] places = new int[MANY];
-        // For each CELL the SHADOWS that have it, 64 in a long.
+        // For each CELL the SHADOWS that have it, 64 in a long, and how many these are.
         final long[] having = new long[Target.CELLS * WORDS];
+        final int[] havingCount = new int[Target.CELLS];
         private final int[] firstWith = new int[Target.CELLS];
         private final int[] nextWith = new int[MANY];
 
@@ -1660,6 +1663,7 @@ public final class ClothPlay {
             union = 0L;
             Arrays.fill(firstWith, NONE);
             Arrays.fill(having, 0L);
+            Arrays.fill(havingCount, 0);
             for (int deep = 1; deep <= target.deepest; deep++) {
                 int columns = Math.min(COLUMNS, target.planeColumn[deep][COLUMNS - 1] + 1);
                 int rows = Math.min(ROWS, target.planeRow[deep][ROWS - 1] + 1);
@@ -1719,6 +1723,7 @@ public final class ClothPlay {
             for (int cell = 0; cell < Target.CELLS; cell++) {
                 if ((mask >>> cell & 1L) == 1L) {
                     having[cell * WORDS + (amount >> 6)] |= 1L << (amount & 63);
+                    havingCount[cell]++;
                 }
             }
             union |= mask;
@@ -1743,7 +1748,9 @@ public final class ClothPlay {
         private boolean looked = false;
         private long ways = 0L;
         private int firstSet = 0;
+        private int second = 0;
         private int third = 0;
+        private int filling = 0;
 
         Maker(Scene scene) {
             this.scene = scene;
@@ -1854,19 +1861,17 @@ public final class ClothPlay {
 
         private void tryPair(int set, Prints one, Prints two) {
             for (int i = 0; i < one.amount; i++) {
-                long rest = target.full & ~one.masks[i];
-                if (rest == 0L || (rest & ~two.union) != 0L) {
+                long a = one.masks[i];
+                long rest = target.full & ~a;
+                if (rest == 0L) {
                     continue;
                 }
-                for (int j = 0; j < two.amount; j++) {
-                    if ((rest & ~two.masks[j]) == 0L && two.masks[j] != target.full) {
-                        ways++;
-                        if (isBetter(set)) {
-                            choose(set);
-                            chosen[trying[0]] = one.places[i];
-                            chosen[trying[1]] = two.places[j];
-                        }
-                    }
+                long found = countFilling(two, rest, a, a, NONE);
+                ways += found;
+                if (found > 0L && isBetter(set)) {
+                    choose(set);
+                    chosen[trying[0]] = one.places[i];
+                    chosen[trying[1]] = two.places[filling];
                 }
             }
         }
@@ -1875,44 +1880,81 @@ public final class ClothPlay {
             for (int i = 0; i < one.amount; i++) {
                 long a = one.masks[i];
                 long rest = target.full & ~a;
-                if ((rest & ~(two.union | three.union)) != 0L || Long.bitCount(rest) > two.widest + three.widest) {
+                if (rest == 0L || (rest & ~(two.union | three.union)) != 0L) {
                     continue;
                 }
-                for (int j = 0; j < two.amount; j++) {
-                    long b = two.masks[j];
-                    long open = rest & ~b;
-                    if (open == 0L || (open & ~three.union) != 0L || Long.bitCount(open) > three.widest) {
-                        continue;
-                    }
-                    long found = countThirds(three, open, a & ~b, b & ~a);
-                    ways += found;
-                    if (found > 0L && isBetter(set)) {
-                        choose(set);
-                        chosen[trying[0]] = one.places[i];
-                        chosen[trying[1]] = two.places[j];
-                        chosen[trying[2]] = three.places[third];
-                    }
+                if (Long.bitCount(rest) > two.widest + three.widest) {
+                    continue;
+                }
+                second = Prints.MANY;
+                third = Prints.MANY;
+                // Some CELL of the rest is had by the second, or, if not, by the third: few pairs need be looked at.
+                int cell = rarestCell(rest, two, three);
+                long found = countBeside(two, three, a, cell, false) + countBeside(three, two, a, cell, true);
+                ways += found;
+                if (found > 0L && isBetter(set)) {
+                    choose(set);
+                    chosen[trying[0]] = one.places[i];
+                    chosen[trying[1]] = two.places[second];
+                    chosen[trying[2]] = three.places[third];
                 }
             }
         }
 
-        /** How many SHADOWS fill what is open and leave both others a CELL of their own; the first of them is kept. */
-        private long countThirds(Prints three, long open, long ownOne, long ownTwo) {
+        private static int rarestCell(long rest, Prints two, Prints three) {
+            int rarest = Long.numberOfTrailingZeros(rest) & (Target.CELLS - 1);
+            for (int cell = rarest; cell < Target.CELLS; cell++) {
+                if ((rest >>> cell & 1L) == 1L && two.havingCount[cell] + three.havingCount[cell]
+                    < two.havingCount[rarest] + three.havingCount[rarest]) {
+                    rarest = cell;
+                }
+            }
+            return rarest;
+        }
+
+        /** Pairs beside a SHADOW: one that has the CELL, and one that fills what is left; if turned, this one lacks it. */
+        private long countBeside(Prints near, Prints far, long a, int cell, boolean turned) {
             long found = 0L;
-            for (int word = 0; word << 6 < three.amount && word < Prints.WORDS; word++) {
-                long some = -1L;
+            for (int n = 0; n < near.amount; n++) {
+                long b = near.masks[n];
+                long open = target.full & ~(a | b);
+                if ((b >>> cell & 1L) == 0L || open == 0L) {
+                    continue;
+                }
+                long filled = countFilling(far, open, a & ~b, b & ~a, turned ? cell : NONE);
+                if (filled > 0L) {
+                    found += filled;
+                    keepFirst(turned ? filling : n, turned ? n : filling);
+                }
+            }
+            return found;
+        }
+
+        private void keepFirst(int two, int three) {
+            if (two < second || (two == second && three < third)) {
+                second = two;
+                third = three;
+            }
+        }
+
+        /** How many SHADOWS have all that is open and leave the others CELLS of their own; the first is kept. */
+        private long countFilling(Prints from, long open, long ownOne, long ownTwo, int lacking) {
+            long found = 0L;
+            if ((open & ~from.union) != 0L || Long.bitCount(open) > from.widest) {
+                return found;
+            }
+            for (int word = 0; word << 6 < from.amount && word < Prints.WORDS; word++) {
+                long some = lacking == NONE ? -1L : ~from.having[lacking * Prints.WORDS + word];
                 long cells = open;
                 for (int k = 0; k < Target.CELLS && cells != 0L && some != 0L; k++) {
-                    some &= three.having[Long.numberOfTrailingZeros(cells) * Prints.WORDS + word];
+                    some &= from.having[Long.numberOfTrailingZeros(cells) * Prints.WORDS + word];
                     cells &= cells - 1L;
                 }
                 for (int k = 0; k < Target.CELLS && some != 0L; k++) {
                     int at = (word << 6) + Long.numberOfTrailingZeros(some);
                     some &= some - 1L;
-                    if (at < three.amount && (ownOne & ~three.masks[at]) != 0L && (ownTwo & ~three.masks[at]) != 0L) {
-                        if (found == 0L) {
-                            third = at;
-                        }
+                    if (at < from.amount && (ownOne & ~from.masks[at]) != 0L && (ownTwo & ~from.masks[at]) != 0L) {
+                        filling = found == 0L ? at : filling;
                         found++;
                     }
                 }

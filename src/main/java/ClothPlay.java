@@ -1912,7 +1912,7 @@ public final class ClothPlay {
             return rarest;
         }
 
-        /** Pairs beside a SHADOW: one that has the CELL, and one that fills what is left; if turned, this one lacks it. */
+        /** Pairs beside a SHADOW: one that has the CELL, one that fills what is left; if turned, this one lacks it. */
         private long countBeside(Prints near, Prints far, long a, int cell, boolean turned) {
             long found = 0L;
             for (int n = 0; n < near.amount; n++) {

@@ -64,10 +64,12 @@ public final class NaiveTest {
                 giveOutline(f);
             }
         }
-        if (k % 2 == 0) {
+        if (k % 3 == 0) {
             crowdedHolding();
-        } else {
+        } else if (k % 3 == 1) {
             crowdedSheet();
+        } else {
+            overlappingSheet();
         }
         int calls = 60 + upTo(60);
         for (int c = 0; c < calls; c++) {
@@ -334,6 +336,36 @@ public final class NaiveTest {
         for (int f = 0; f < 4 && real.made(cast, 1) > 0; f++) {
             for (int what = 0; what < 4; what++) {
                 same("who " + cast + " " + f + " " + what, real.who(cast, f, what), naive.who(cast, f, what));
+            }
+        }
+    }
+
+    /** A band of CELLS that bars of all lengths can overlap on in many ways, so that the first of them matters. */
+    private void overlappingSheet() {
+        int lamp = 2 + upTo(2);
+        same("terms 0 " + lamp, real.terms(0, lamp), naive.terms(0, lamp));
+        for (int f = 0; f < 6; f++) {
+            emptyTape();
+            feed(new byte[] {(byte) (oneIn(4) ? 1 + upTo(255) : (1 << (1 + upTo(5))) - 1)});
+            same("row " + f, real.row(f), naive.row(f));
+        }
+        int length = 3 + upTo(9);
+        int band = (1 << length) - 1 << (oneIn(3) ? 32 - length : upTo(20));
+        if (oneIn(4)) {
+            band &= ~(1 << upTo(32));
+        }
+        emptyTape();
+        feed(new byte[] {(byte) (band >>> 24), (byte) (band >>> 16), (byte) (band >>> 8), (byte) band});
+        same("row -1", real.row(-1), naive.row(-1));
+        for (int turn = 0; turn < 3; turn++) {
+            int cast = (1 << naive.s.sticks.size()) - 1 & (turn == 0 ? 63 : upTo(64));
+            for (int what = 0; what < 2; what++) {
+                same("made " + cast + " " + what, real.made(cast, what), naive.made(cast, what));
+            }
+            for (int f = 0; f < 6; f++) {
+                for (int what = 0; what < 4; what++) {
+                    same("who " + cast + " " + f + " " + what, real.who(cast, f, what), naive.who(cast, f, what));
+                }
             }
         }
     }

@@ -376,6 +376,7 @@ public final class PromisesTest {
         due("beat 12", faultOf("beat 12 0 off"), 5);
         due("second beat", faultOf("beat 4 to 3 0 off"), 10);
         due("second beat beyond", faultOf("beat 4 to 12 0 off"), 10);
+        due("beat 11", faultOf("beat 11 0 off"), -1);
         due("second beat alike", faultOf("beat 4 to 4 0 off"), -1);
         due("figure 6", faultOf("beat 4 6 off"), 7);
         due("x", faultOf("beat 4 5 at 32,0 deep 1"), 12);
@@ -692,6 +693,13 @@ public final class PromisesTest {
         due("first of the first", p.holder(0, 0), 0);
         due("second of the first", p.holder(1, 0), 0);
         due("third of the first", p.holder(2, 0), 1);
+        p = with(1, 1, 1, 1, 1, 1);
+        for (int f = 0; f < 6; f++) {
+            p.on(f, 11, 0, 0, 1);
+        }
+        for (int f = 0; f < 6; f++) {
+            due("six, " + f, p.holder(f, 11), f / 2);
+        }
     }
 
     private static void passed() {
@@ -769,6 +777,9 @@ public final class PromisesTest {
         due("their orders", p.made(7, 0), 6);
         due("none with two", p.made(3, 0), 0);
         due("cast of none", p.made(0, 0), 0);
+        p.terms(0, 8);
+        due("two of one cell: the lamp at 8 widens one", p.made(7, 1), 2);
+        p.terms(0, 2);
         due("not there", p.made(16, 0), -1);
         due("below 0", p.made(-1, 0), -1);
         due("what 2", p.made(1, 2), -1);

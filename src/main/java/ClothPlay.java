@@ -70,7 +70,6 @@ public final class ClothPlay {
         scene.stickCount[number] = sticks;
         scene.figures = number + 1;
         changeHands();
-        changeCast();
         return accept(number);
     }
 

@@ -373,6 +373,8 @@ public final class PromisesTest {
         due("empty", faultOf(""), 0);
         due("first", faultOf("  Beat 1"), 2);
         due("longest letters", faultOf("beatx 1"), 0);
+        due("z is a letter", faultOf("beatz 1"), 0);
+        due("a is a letter", faultOf("abeat 1"), 0);
         due("beat 12", faultOf("beat 12 0 off"), 5);
         due("second beat", faultOf("beat 4 to 3 0 off"), 10);
         due("second beat beyond", faultOf("beat 4 to 12 0 off"), 10);
@@ -482,6 +484,7 @@ public final class PromisesTest {
         p.terms(0, 8);
         due("all of them", p.shadow(-1, 0, 15), 1);
         due("row 16", p.shadow(0, 0, 16), 0);
+        due("row 16 behind row 15", shadowOf(0, 15, 8, 16), 0);
         due("row -1", p.shadow(0, 0, -1), 0);
         due("beat 12", p.shadow(-1, 12, 0), 0);
         due("beat -1", p.shadow(-1, -1, 0), 0);
@@ -668,6 +671,21 @@ public final class PromisesTest {
         p.on(0, 0, 0, 0, 1);
         p.on(0, 2, 0, 0, 1);
         due("off between is no passing", p.least(1), 9);
+        p = with(1, 1, 1, 1, 1, 1);
+        p.terms(3, 1);
+        p.terms(4, 6);
+        for (int b = 0; b < 12; b++) {
+            for (int f = 0; f < 6; f++) {
+                p.on(f, b, 0, 0, 1);
+            }
+        }
+        // Of 4 holders for each of 6, those in which a helper has more than three can't be.
+        due("six with all holders, each staying", p.least(1), 4096 - 3 * (15 * 9 + 6 * 3 + 1));
+        p = new ClothPlay();
+        play(p, "beat 0 0 at 0,0 deep 1");
+        due("not there yet", p.least(1), 1);
+        p.figure(1);
+        due("there now", p.least(1), 3);
     }
 
     private static void holder() {
@@ -829,6 +847,17 @@ public final class PromisesTest {
         due("no way", p.who(1, 0, 0), -1);
         sheet(p, -1, -1, 1);
         due("65 cells", p.who(7, 0, 0), -1);
+        // A bar of seven with holes at 2 and 5, one cell, and a bar of three that may lie over the other hole in two ways.
+        p.terms(0, 2);
+        sheet(p, 0x7f);
+        outline(p, 0, 0x5b);
+        outline(p, 1, 1);
+        outline(p, 2, 7);
+        due("ways", p.made(7, 0), 5);
+        due("three", p.made(7, 1), 3);
+        due("first of the first", p.who(7, 0, 1), 0);
+        due("first of the second", p.who(7, 1, 1), 2);
+        due("first of the third", p.who(7, 2, 1), 3);
     }
 
     /** DEEP and X of the first place from which one cell lights a column of row 1 alone, by the lamp at 8. */
@@ -966,16 +995,18 @@ public final class PromisesTest {
         int least = p.least(1);
         p.figure(2);
         p.sticks(0, 2);
-        outline(p, 0, 1, 1, 1, 1, 1, 1, 1, 1, 1);
         play(p, "beat 1 0 at 1,1 deep 1");
         p.terms(0, 10);
         sheet(p, 7, 7);
+        outline(p, 0, 1, 1, 1, 1, 1, 1, 1, 1, 1);
         p.show(2);
         p.feed(0, 0, 0, 0, 0);
         play(p, "pass");
         p.feed(0, 0, 0, 0, 0);
         int torn = p.torn();
+        due("something torn", torn, 1);
         due("back", p.back(0), 0);
+        due("torn is not kept", p.torn(), torn);
         due("figures", p.count(0), 1);
         due("clauses", p.count(1), 3);
         due("outline", p.outline(0, 0), 3);
@@ -988,11 +1019,19 @@ public final class PromisesTest {
         due("sheet row", p.sheet(1), 0);
         due("law", p.least(1), least);
         due("holder by law", p.holder(0, 0), 1);
+        p.terms(0, 2);
+        sheet(p, 3);
+        p.image(1);
+        due("made", p.made(1, 0), 1);
+        sheet(p, 1);
+        due("not made", p.made(1, 0), 0);
+        p.back(1);
+        due("made again", p.made(1, 0), 1);
+        p.back(0);
+        p.feed(0, 0, 0, 0, 0);
         due("the tape is not kept", p.count(6), 20);
         due("fault is not kept", p.fault(), 4);
-        due("torn is not kept", p.torn(), torn);
         due("the show is not kept", p.slipped(0), 0);
-        due("the other image", p.back(1), -2);
         p.figure(2);
         due("a new figure has no outline", p.outline(1, 0), 0);
         due("again", p.back(0), 0);

@@ -1491,24 +1491,24 @@ public final class ClothPlay {
             }
             for (int o = 0; o < outer; o++) {
                 for (int out = 0; out < outs; out++) {
-                    for (int i = 0; i < inner; i++) {
-                        long sum = NO_WAY;
-                        for (int in = 0; in < ins; in++) {
-                            long cost = row == NONE ? 0 : costs[row + out * HOLDERS + in];
-                            sum = either(sum, from[(o * ins + in) * inner + i] + (cost << COST));
+                    int into = (o * outs + out) * inner;
+                    for (int in = 0; in < ins; in++) {
+                        int source = (o * ins + in) * inner;
+                        long cost = row == NONE ? 0L : (long) costs[row + out * HOLDERS + in] << COST;
+                        for (int i = 0; i < inner; i++) {
+                            long way = from[source + i] + cost;
+                            to[into + i] = in == 0 ? way : either(to[into + i], way);
                         }
-                        to[(o * outs + out) * inner + i] = sum;
                     }
                 }
             }
         }
 
         private static long either(long one, long other) {
-            if (one >= NO_WAY || other >= NO_WAY || one >> COST != other >> COST) {
+            if (one >> COST != other >> COST) {
                 return Math.min(one, other);
             }
-            long count = Math.min(MOST, (one & COUNT) + (other & COUNT));
-            return (one >> COST << COST) | count;
+            return (one >> COST << COST) | Math.min(MOST, (one & COUNT) + (other & COUNT));
         }
 
         private void keepHoldings(int beat) {

@@ -7,6 +7,7 @@ import java.nio.file.Path;
 import java.util.ArrayList;
 import java.util.Arrays;
 import java.util.List;
+import java.util.Random;
 import java.util.Set;
 import java.util.TreeSet;
 import java.util.regex.Matcher;
@@ -24,6 +25,7 @@ public final class RulesTest {
         face();
         names();
         source(Files.readString(Path.of("src/main/java/ClothPlay.java")));
+        extremes();
         room();
         System.out.println(wrong == 0 ? "the rules are kept" : wrong + " rules are not kept");
         System.exit(wrong == 0 ? 0 : 1);
@@ -103,6 +105,34 @@ public final class RulesTest {
             }
             if (lines[k].matches(" {4,8}\\}")) {
                 must(k - start < 60 || !lines[start].contains("(") || lines[k].length() == 5, "method at line " + (start + 1));
+            }
+        }
+    }
+
+    /** No call throws, whatever it is given in whatever state. */
+    private static void extremes() {
+        int[] odd = {
+            Integer.MIN_VALUE, Integer.MIN_VALUE + 1, -64, -2, -1, 0, 1, 2, 3, 5, 6, 7, 8, 11, 12, 15, 16, 31, 32, 33, 63,
+            64, 400, 1000000, 1000001, Integer.MAX_VALUE};
+        Random random = new Random(3);
+        Method[] methods = Arrays.stream(ClothPlay.class.getDeclaredMethods())
+            .filter(m -> Modifier.isPublic(m.getModifiers()))
+            .sorted((a, b) -> a.getName().compareTo(b.getName()))
+            .toArray(Method[]::new);
+        for (int run = 0; run < 400; run++) {
+            ClothPlay p = new ClothPlay();
+            for (int call = 0; call < 512; call++) {
+                Method m = methods[random.nextInt(methods.length)];
+                Object[] with = new Object[m.getParameterCount()];
+                for (int k = 0; k < with.length; k++) {
+                    with[k] = random.nextInt(3) == 0 ? odd[random.nextInt(odd.length)] : random.nextInt(8);
+                }
+                try {
+                    m.invoke(p, with);
+                } catch (ReflectiveOperationException thrown) {
+                    must(false, m.getName() + Arrays.toString(with) + " threw " + thrown.getCause());
+                    return;
+                }
             }
         }
     }

@@ -1,5 +1,5 @@
 /** For each promise of the document: ordinary inputs, its edges, wrong inputs. */
-public final class PromisesTest {
+public final class PromisesTest extends Props {
     private static int wrong = 0;
     private static int checks = 0;
     private static int promise = 0;
@@ -52,56 +52,11 @@ public final class PromisesTest {
         }
     }
 
-    // ---- making scenes
-
-    private static void bytes(ClothPlay p, int... bytes) {
-        p.end(0);
-        for (int k = 0; k < bytes.length; k += 20) {
-            int[] v = new int[5];
-            for (int j = 0; j < 20; j++) {
-                v[j / 4] = v[j / 4] << 8 | (k + j < bytes.length ? bytes[k + j] : 0);
-            }
-            p.feed(v[0], v[1], v[2], v[3], v[4]);
-        }
-        p.end(bytes.length);
-    }
-
-    private static void tape(ClothPlay p, String text) {
-        bytes(p, text.chars().toArray());
-    }
-
-    private static int play(ClothPlay p, String text) {
-        tape(p, text);
-        return p.play();
-    }
-
     private static int faultOf(String text) {
         ClothPlay p = new ClothPlay();
         int answer = play(p, text);
         due("play of '" + text + "'", answer < 0 ? -6 : 0, answer < 0 ? answer : 0);
         return p.fault();
-    }
-
-    private static ClothPlay with(int... sticks) {
-        ClothPlay p = new ClothPlay();
-        for (int s : sticks) {
-            p.figure(s);
-        }
-        return p;
-    }
-
-    private static void outline(ClothPlay p, int figure, int... rows) {
-        bytes(p, rows);
-        p.row(figure);
-    }
-
-    private static void sheet(ClothPlay p, int... rows) {
-        int[] all = new int[rows.length * 4];
-        for (int k = 0; k < all.length; k++) {
-            all[k] = rows[k / 4] >>> (24 - k % 4 * 8) & 255;
-        }
-        bytes(p, all);
-        p.row(-1);
     }
 
     // ---- the promises
@@ -287,7 +242,7 @@ public final class PromisesTest {
         due("highest first", p.sheet(0), 0x80000001);
         due("second", p.sheet(1), 6);
         due("third breaks off", p.sheet(2), 0);
-        sheet(p, 0, 1);
+        told(p, 0, 1);
         due("the sheet anew", p.sheet(0), 0);
         due("its cells", p.count(5), 1);
         bytes(p, 7, 7, 7);
@@ -782,7 +737,7 @@ public final class PromisesTest {
         due("empty, fewest", p.made(15, 1), 0);
         // By this lamp a cell lights either one CELL or four.
         p.terms(0, 2);
-        sheet(p, 0b111);
+        told(p, 0b111);
         due("no outlines", p.made(15, 0), 0);
         due("no fewest", p.made(15, 1), -1);
         outline(p, 0, 1);
@@ -804,18 +759,18 @@ public final class PromisesTest {
         due("what -1", p.made(1, -1), -1);
         outline(p, 1, 0b11);
         due("overlapping ones have cells of their own", p.made(3, 0), 2);
-        sheet(p, -1, -1);
+        told(p, -1, -1);
         due("64 cells", p.made(15, 0), 0);
-        sheet(p, -1, -1, 1);
+        told(p, -1, -1, 1);
         due("65 cells", p.made(15, 0), -1);
         due("65 cells, fewest", p.made(15, 1), -1);
-        sheet(p, 3, 3);
+        told(p, 3, 3);
         outline(p, 0, 1);
         due("lamp 2: twice as large", p.made(1, 0), 1);
         p.terms(0, 32);
-        sheet(p, 15, 15, 15, 15);
+        told(p, 15, 15, 15, 15);
         due("lamp 32, deep 8", p.made(1, 0), 1);
-        sheet(p, 3, 3);
+        told(p, 3, 3);
         due("not so deep", p.made(1, 0), 0);
     }
 
@@ -827,7 +782,7 @@ public final class PromisesTest {
         outline(p, 0, 1);
         outline(p, 1, 1);
         outline(p, 2, 3);
-        sheet(p, 0, 0b11 << 5);
+        told(p, 0, 0b11 << 5);
         due("one is enough", p.who(7, 2, 0), 1);
         due("others are not in it", p.who(7, 0, 0), 0);
         due("nor anywhere", p.who(7, 0, 3), -1);
@@ -845,11 +800,11 @@ public final class PromisesTest {
         due("what -1", p.who(3, 0, -1), -1);
         due("cast beyond", p.who(8, 0, 0), -1);
         due("no way", p.who(1, 0, 0), -1);
-        sheet(p, -1, -1, 1);
+        told(p, -1, -1, 1);
         due("65 cells", p.who(7, 0, 0), -1);
         // A bar of seven with holes at 2 and 5, one cell, and a bar of three that may lie over the other hole in two ways.
         p.terms(0, 2);
-        sheet(p, 0x7f);
+        told(p, 0x7f);
         outline(p, 0, 0x5b);
         outline(p, 1, 1);
         outline(p, 2, 7);
@@ -885,7 +840,7 @@ public final class PromisesTest {
         for (int r = 0; r < 16; r++) {
             rows[r] = -r * 0x01010101;
         }
-        sheet(p, rows);
+        told(p, rows);
         for (int r = 0; r < 16; r++) {
             due("row " + r, p.sheet(r), rows[r]);
         }
@@ -989,7 +944,7 @@ public final class PromisesTest {
         outline(p, 0, 3);
         play(p, "beat 0 0 at 4,5 deep 6;slip 100;bars if helper = 0");
         p.terms(0, 9);
-        sheet(p, 5);
+        told(p, 5);
         p.show(1);
         p.image(0);
         int least = p.least(1);
@@ -997,7 +952,7 @@ public final class PromisesTest {
         p.sticks(0, 2);
         play(p, "beat 1 0 at 1,1 deep 1");
         p.terms(0, 10);
-        sheet(p, 7, 7);
+        told(p, 7, 7);
         outline(p, 0, 1, 1, 1, 1, 1, 1, 1, 1, 1);
         p.show(2);
         p.feed(0, 0, 0, 0, 0);
@@ -1020,10 +975,10 @@ public final class PromisesTest {
         due("law", p.least(1), least);
         due("holder by law", p.holder(0, 0), 1);
         p.terms(0, 2);
-        sheet(p, 3);
+        told(p, 3);
         p.image(1);
         due("made", p.made(1, 0), 1);
-        sheet(p, 1);
+        told(p, 1);
         due("not made", p.made(1, 0), 0);
         p.back(1);
         due("made again", p.made(1, 0), 1);
@@ -1047,7 +1002,7 @@ public final class PromisesTest {
         due("on", p.count(2), 9);
         due("beats", p.count(3), 6);
         due("at once", p.count(4), 3);
-        sheet(p, -1, 1);
+        told(p, -1, 1);
         due("cells", p.count(5), 33);
         p.feed(0, 0, 0, 0, 0);
         due("bytes", p.count(6), 20);

@@ -78,6 +78,11 @@ public final class EdgesTest extends Bench {
         due("full", p.figure(2), -5);
         due("full and wrong", p.figure(3), -1);
         due("six stay", p.count(0), 6);
+        p = new ClothPlay();
+        play(p, "beat 0 0 at 0,0 deep 1");
+        due("nobody is on yet", p.least(1), 1);
+        p.figure(1);
+        due("whom the play told is on", p.least(1), 3);
     }
 
     private static void sticks() {
@@ -324,6 +329,8 @@ public final class EdgesTest extends Bench {
         bytes(p, " ".repeat(400).chars().toArray());
         due("a tape of blanks", p.play(), -6);
         due("fault at 400", p.fault(), 400);
+        due("nothing behind blanks", p.play(), -6);
+        due("fault at its end again", p.fault(), 0);
         due("a fault", play(p, "beat 0 0 off;slip"), -6);
         due("the one before stays", p.count(1), 2);
         due("its places", p.of(0, 0, 0), 1);
@@ -331,6 +338,12 @@ public final class EdgesTest extends Bench {
         due("another", play(p, "beat 0 0 at 2,2 deep 2"), 1);
         due("its clauses", p.count(1), 1);
         due("the old laws are gone", p.show(0), 0);
+        due("off where it was at", play(p, "beat 0 0 off"), 1);
+        due("it is off", p.of(0, 0, 0), 0);
+        due("many laws", play(p, "beat 0 0 at 2,2 deep 2;slip 0" + ";slip 100".repeat(22)), 24);
+        due("the last tells", p.show(0), 1);
+        due("fewer laws", play(p, "beat 0 0 at 2,2 deep 2;slip 0"), 2);
+        due("none of the others tells", p.show(0), 0);
     }
 
     private static void fault() {
@@ -529,6 +542,14 @@ public final class EdgesTest extends Bench {
         p.terms(2, 3);
         due("no more than", p.least(1), productOfHoldings(p));
         due("it is the most", p.least(1), 1000000000);
+        p = with(1, 1, 1, 1, 1, 1);
+        p.terms(3, 1);
+        p.terms(4, 6);
+        for (int f = 0; f < 6; f++) {
+            p.on(f, 0, 0, 0, 1);
+            p.on(f, 1, 0, 0, 1);
+        }
+        due("six, any of four holders, staying", p.least(1), 4096 - 3 * (15 * 9 + 6 * 3 + 1));
     }
 
     private static int productOfHoldings(ClothPlay p) {
@@ -559,6 +580,16 @@ public final class EdgesTest extends Bench {
         p.terms(2, 3);
         p.on(0, 11, 0, 0, 1);
         due("beat 11", p.holder(0, 11), 0);
+        p = with(1, 1, 1, 1, 1, 1);
+        p.terms(4, 6);
+        String all = "bars if helper<3";
+        for (int f = 0; f < 6; f++) {
+            all += ";beat 0 to 1 " + f + " at 0,0 deep 1";
+        }
+        play(p, all);
+        for (int f = 0; f < 6; f++) {
+            due("all on the hooks, " + f, p.holder(f, 1), 3);
+        }
     }
 
     private static void passed() {
@@ -614,6 +645,11 @@ public final class EdgesTest extends Bench {
         p.terms(2, 1);
         due("none again", p.barred(0), NONE);
         due("no core again", p.barred(1), NONE);
+        p.terms(2, 3);
+        for (int barred = 0; barred < 3; barred++) {
+            play(p, "beat 4 0 at 0,0 deep 1;beat 4 1 at 0,0 deep 1;beat 4 2 at 0,0 deep 1;bars if figure=" + barred);
+            due("one of three, " + barred, p.barred(1), 1 << barred);
+        }
     }
 
     private static void made() {
@@ -657,6 +693,29 @@ public final class EdgesTest extends Bench {
         p = with(1, 1, 1, 1, 1, 1);
         due("all six", p.made(63, 0), 1);
         due("a seventh", p.made(64, 0), NONE);
+        askedAnew();
+    }
+
+    /** What changes between two askings of the same CAST counts. */
+    private static void askedAnew() {
+        ClothPlay p = standing(at(0, 0, 8));
+        told(p, 3, 3);
+        due("by the lamp at 8", p.made(1, 0), 1);
+        p.terms(0, 32);
+        due("by the lamp at 32", p.made(1, 0), 0);
+        p.terms(0, 8);
+        p.image(0);
+        p.copy(1);
+        due("copied: empty", p.made(1, 0), 1);
+        due("nobody needed", p.made(1, 1), 0);
+        p.back(0);
+        due("back", p.made(1, 1), 1);
+        outline(p, 0, 3);
+        due("another outline", p.made(1, 0), 0);
+        p.back(0);
+        due("back to the outline", p.made(1, 0), 1);
+        told(p, 5);
+        due("another sheet", p.made(1, 0), 0);
     }
 
     private static void who() {
@@ -820,6 +879,12 @@ public final class EdgesTest extends Bench {
         due("1", p.back(1), 0);
         due("again", p.back(1), 0);
         due("one figure", p.count(0), 1);
+        p.on(0, 0, 0, 0, 1);
+        due("three may hold it", p.least(1), 3);
+        due("on one beat", p.holdings(0), 3);
+        p.back(1);
+        due("nobody need", p.least(1), 1);
+        due("nor on that beat", p.holdings(0), 1);
     }
 
     private static void count() {

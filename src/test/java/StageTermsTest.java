@@ -1,3 +1,5 @@
+import java.util.Random;
+
 /** Terms III and IV of the document, sentence by sentence: shadows, holders, performances; sheets, shows, rows, images. */
 public final class StageTermsTest extends Bench {
     public static void main(String[] args) {
@@ -143,6 +145,17 @@ public final class StageTermsTest extends Bench {
                 due("figures " + set[0] + ", teeth " + teeth, p.holds(2, 0, set[0]), set[1 + teeth]);
             }
         }
+        for (int both = 0; both < 6; both++) {
+            for (int f = 0; f < 6; f++) {
+                p.sticks(f, f == both ? 2 : 1);
+            }
+            int beside = 1 << (both + 1) % 6;
+            p.terms(3, 0);
+            due("two sticks alone, " + both, p.holds(0, 0, 1 << both), 1);
+            due("two sticks and one, " + both, p.holds(0, 0, 1 << both | beside), 0);
+            p.terms(3, 1);
+            due("with teeth, " + both, p.holds(0, 0, 1 << both | beside), 1);
+        }
         near(at(0, 0, 1), at(8, 0, 1), 5, 8);
         near(at(8, 0, 1), at(0, 0, 1), 5, 8);
         near(at(0, 0, 1), at(31, 0, 1), 5, 31);
@@ -282,6 +295,11 @@ public final class StageTermsTest extends Bench {
         play(p, "beat 0 to 2 0 at 0,0 deep 1;bars if helper=0 and beat=0;bars if helper=3 and beat=1;pass 2;pass 5 if helper=0");
         due("from the hooks and on", p.least(0), 2);
         due("it is the hooks'", p.holder(0, 0), 3);
+        p = with(1, 1);
+        play(p, "beat 0 to 3 0 at 0,0 deep 1;beat 0 to 3 1 at 0,0 deep 1;bars if not helper=beat-beat/2*2;pass figure*3+beat");
+        due("each by its own beat and figure", p.least(0), 1 + 2 + 3 + 4 + 5 + 6);
+        play(p, "beat 0 to 2 0 at 0,0 deep 1;beat 1 to 3 1 at 0,0 deep 1;bars if not helper=beat-beat/2*2;pass figure*3+beat");
+        due("not when it comes or goes", p.least(0), 1 + 2 + 5 + 6);
     }
 
     private static void firstOfLeast() {
@@ -298,6 +316,11 @@ public final class StageTermsTest extends Bench {
         play(p, "beat 0 to 2 0 at 0,0 deep 1;bars if beat=2 and helper<2;bars if beat=0 and helper=2");
         due("passed once, from either, on either beat", p.least(1), 4);
         holders(p, 0, 0, 0, 2);
+        play(p, "beat 0 to 3 0 at 0,0 deep 1;bars if (beat=0 or beat=2) and helper>0"
+            + ";bars if (beat=1 or beat=3) and helper=0");
+        due("passed three times", p.least(0), 3);
+        due("to either of two, twice", p.least(1), 4);
+        holders(p, 0, 0, 1, 0, 1);
         p = with(2, 2, 2);
         play(p, "beat 0 to 1 1 at 0,0 deep 1;beat 0 to 1 2 at 0,0 deep 1;beat 1 0 at 0,0 deep 1;pass 0");
         holders(p, 0, NONE, 0);
@@ -467,6 +490,15 @@ public final class StageTermsTest extends Bench {
         told(p, 1 << 31);
         due("cut off by the edge", p.made(1, 0), 1);
         due("where", p.who(1, 0, 1), 31);
+        told(p, 2);
+        due("no cell may be too many: ahead", p.made(1, 0), 0);
+        told(p, 1);
+        due("no cell may be too many: behind", p.made(1, 0), 0);
+        outline(p, 0, 1, 1);
+        told(p, 0, 1);
+        due("no cell may be too many: above", p.made(1, 0), 0);
+        told(p, 1, 0);
+        due("no cell may be too many: below", p.made(1, 0), 0);
     }
 
     private static void madeCounted() {
@@ -490,6 +522,65 @@ public final class StageTermsTest extends Bench {
         due("two places", p.made(1, 0), 1);
         due("the lower x", p.who(1, 0, 1), 30);
         due("not the lower y", p.who(1, 0, 2), 15);
+        foundAll();
+    }
+
+    private static void foundAll() {
+        // One object for many: what it found of an earlier SHEET must not show in the next.
+        Random random = new Random(5);
+        ClothPlay p = null;
+        int[][] cells = {{1}, {7, 7, 7}, {255, 255, 255, 255}, {15, 9, 9, 15}};
+        for (int k = 0; k < 60; k++) {
+            if (k % 6 == 0) {
+                p = with(1, 1, 1, 1);
+                for (int f = 0; f < 4; f++) {
+                    outline(p, f, cells[f]);
+                }
+            }
+            int lamp = k % 3 == 0 ? 8 : 2 + random.nextInt(10);
+            p.terms(0, lamp);
+            for (int f = 0; f < 4; f++) {
+                p.off(f, 0);
+            }
+            for (int f = 0; f < 3; f++) {
+                p.on((f + k) % 4, 0, random.nextInt(5), random.nextInt(4), Math.max(1, lamp - random.nextInt(4)));
+            }
+            int[] rows = new int[16];
+            p.copy(0);
+            for (int r = 0; r < 16; r++) {
+                rows[r] = p.sheet(r);
+            }
+            if (p.count(5) <= 64) {
+                asAll(p, new Ways(cells, rows, lamp));
+            }
+        }
+        holes(1, 128);
+        holes(128, 128);
+        holes(8, 16);
+    }
+
+    /** Eight by eight CELLS, of which one FIGURE leaves out two that the others may fill, each in many places. */
+    private static void holes(int above, int below) {
+        ClothPlay p = with(1, 1, 1, 1);
+        int[][] cells = {{1}, {255 & ~above, 255, 255, 255, 255, 255, 255, 255 & ~below}, {1, 1}, {3}};
+        for (int f = 0; f < 4; f++) {
+            outline(p, f, cells[f]);
+        }
+        int[] rows = {255, 255, 255, 255, 255, 255, 255, 255};
+        told(p, rows);
+        asAll(p, new Ways(cells, rows, 8));
+    }
+
+    private static void asAll(ClothPlay p, Ways ways) {
+        due("ways", p.made(15, 0), ways.count);
+        due("fewest", p.made(15, 1), ways.fewest);
+        for (int f = 0; f < 4 && ways.fewest != NONE; f++) {
+            int[] place = ways.first[f];
+            due("in it", p.who(15, f, 0), place == null ? 0 : 1);
+            due("deep", p.who(15, f, 3), place == null ? NONE : place[0]);
+            due("x", p.who(15, f, 1), place == null ? NONE : place[1]);
+            due("y", p.who(15, f, 2), place == null ? NONE : place[2]);
+        }
     }
 
     // ---- IV: shows, rows, images
@@ -557,6 +648,9 @@ public final class StageTermsTest extends Bench {
             p = with(1, 1, 1);
             play(p, order + ";" + laws[k]);
             due(laws[k], p.show(18), slips[k]);
+            p = with(1);
+            play(p, "beat 5 0 at 0,0 deep 1;" + laws[k]);
+            due(laws[k] + ", a draw of 0", p.show(85), Math.min(1, slips[k]));
         }
     }
 
@@ -639,6 +733,7 @@ public final class StageTermsTest extends Bench {
     }
 
     private static void empty(ClothPlay p) {
+        play(p, "beat 0 to 11 0 at 9,8 deep 7;beat 0 to 11 1 at 9,8 deep 7");
         int[] terms = {10, 3, 3, 0, 2, 18, 5};
         for (int what = 0; what < 7; what++) {
             p.terms(what, terms[what]);

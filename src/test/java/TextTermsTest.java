@@ -247,6 +247,14 @@ public final class TextTermsTest extends Bench {
         fault("bars" + ";bars".repeat(23) + "; ^;");
         taken("beat 0 0 off" + ";beat 0 0 off".repeat(23), 24);
         fault("beat 0 0 off" + ";beat 0 0 off".repeat(23) + ";^bars");
+        ClothPlay last = with(1);
+        due("23 and one", play(last, "beat 0 0 at 0,0 deep 1" + ";slip 0".repeat(22) + ";slip 100"), 24);
+        due("the 24th tells", last.show(0), 1);
+        due("24 laws", play(last, "slip 100" + ";bars if x<0".repeat(23)), 24);
+        last.on(0, 0, 0, 0, 1);
+        due("the first of 24 tells", last.show(0), 1);
+        due("24 places", play(last, "beat 0 0 off;".repeat(23) + "beat 11 0 at 0,0 deep 1"), 24);
+        due("the last of them", last.of(0, 11, 0), 1);
         fault("^;bars");
         fault("bars;^");
         fault("bars ^bars");
@@ -325,6 +333,10 @@ public final class TextTermsTest extends Bench {
         so("not not 1=2", false);
         so("not 1=2 and 1=2", false);
         so("not (1=2 and 1=2)", true);
+        so("not (not 1=1)", true);
+        so("not (not 1=2)", false);
+        so("(not 1=1) or 1=1", true);
+        so("not (not (not 1=1))", false);
         so("(1=1 or 1=1) and 1=2", false);
         so("1<2", true);
         so("2<2", false);
@@ -456,6 +468,7 @@ public final class TextTermsTest extends Bench {
         due("a figure to come is not there", p.of(0, 0, 0), NONE);
         p.figure(1);
         due("it comes on", p.of(0, 0, 1), 1);
+        notThereYet();
 
         says("DEEP beyond the LAMP counts as the LAMP.");
         for (int lamp : new int[] {2, 8, 31, 32}) {
@@ -484,6 +497,30 @@ public final class TextTermsTest extends Bench {
         due("the word deep", p.show(0), 1);
         p.terms(0, 9);
         due("by another lamp", p.show(0), 0);
+    }
+
+    /** A FIGURE that the PLAY told and that is not there yet is nowhere to be seen. */
+    private static void notThereYet() {
+        ClothPlay p = standing(at(0, 0, 1));
+        due("two figures told", play(p, "beat 0 0 at 0,0 deep 8;beat 0 to 1 1 at 0,0 deep 7"), 2);
+        due("of", p.of(1, 0, 0), NONE);
+        due("off", p.off(1, 0), -2);
+        due("shadow", p.shadow(1, 0, 0), 0);
+        due("seen", p.seen(1, 0, 2), NONE);
+        due("common", p.common(0, 1, 0), NONE);
+        due("holds", p.holds(0, 0, 2), NONE);
+        due("holder", p.holder(1, 0), NONE);
+        due("passed", p.passed(1), NONE);
+        due("holdings", p.holdings(0), 3);
+        due("ways", p.least(1), 3);
+        due("on together", p.count(2), 1);
+        due("beats", p.count(3), 1);
+        due("at once", p.count(4), 1);
+        p.figure(1);
+        outline(p, 1, 1);
+        due("there now: hidden by it", p.seen(0, 0, 1), 1);
+        due("there now: on together", p.count(2), 3);
+        due("there now: ways", p.least(1), 9);
     }
 
     private static void asking() {

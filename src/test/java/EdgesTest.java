@@ -179,6 +179,13 @@ public final class EdgesTest extends Bench {
             due("what " + what, p.of(0, 2, what), NONE);
             due("off, what " + what, p.of(0, 3, what), NONE);
         }
+        p.on(1, 11, 31, 15, 1);
+        int[] last = {1, 31, 15, 1};
+        for (int what = 0; what < 4; what++) {
+            due("another figure and beat, what " + what, p.of(1, 11, what), last[what]);
+            due("the first as it was, what " + what, p.of(0, 2, what), on[what]);
+            due("its last beat, what " + what, p.of(0, 11, what), off[what]);
+        }
         due("never refused", p.count(7) + p.count(8), 0);
     }
 
@@ -580,6 +587,10 @@ public final class EdgesTest extends Bench {
         p.terms(2, 3);
         p.on(0, 11, 0, 0, 1);
         due("beat 11", p.holder(0, 11), 0);
+        p.on(1, 0, 1, 0, 1);
+        p.terms(2, 1);
+        due("one helper for both: the first", p.holder(0, 0), 0);
+        due("one helper for both: the second, no longer another's", p.holder(1, 0), 0);
         p = with(1, 1, 1, 1, 1, 1);
         p.terms(4, 6);
         String all = "bars if helper<3";
@@ -590,6 +601,10 @@ public final class EdgesTest extends Bench {
         for (int f = 0; f < 6; f++) {
             due("all on the hooks, " + f, p.holder(f, 1), 3);
         }
+        play(p, "bars if helper<3 and beat>9;beat 9 to 11 5 at 0,0 deep 1");
+        due("came new, so a helper", p.holder(5, 9), 0);
+        due("the last figure stays on the hooks", p.holder(5, 10), 3);
+        due("on the last beat, too", p.holder(5, 11), 3);
     }
 
     private static void passed() {
@@ -705,6 +720,7 @@ public final class EdgesTest extends Bench {
         due("by the lamp at 32", p.made(1, 0), 0);
         p.terms(0, 8);
         p.image(0);
+        due("by the lamp at 8 again", p.made(1, 1), 1);
         p.copy(1);
         due("copied: empty", p.made(1, 0), 1);
         due("nobody needed", p.made(1, 1), 0);

@@ -330,11 +330,31 @@ public final class StageTermsTest extends Bench {
         holders(p, 0, NONE, 2);
         holders(p, 1, 0, 0);
         holders(p, 2, 1, 1);
+        comesAndGoes();
         p = with(1);
         p.terms(2, 1);
         p.terms(4, 1);
         p.on(0, 0, 0, 0, 1);
         due("helpers ahead of the hooks", p.holder(0, 0), 0);
+    }
+
+    /** One that comes or goes beside one whose holders are not alike. */
+    private static void comesAndGoes() {
+        for (int goer = 0; goer < 2; goer++) {
+            int stays = 1 - goer;
+            String both = "beat 0 to 1 " + stays + " at 0,0 deep 1;beat ";
+            ClothPlay p = with(1, 1);
+            play(p, both + "1 " + goer + " at 0,0 deep 1;bars if helper=0 and beat=1 and figure=" + stays);
+            due(goer + " comes, passed", p.least(0), 0);
+            due(goer + " comes, ways", p.least(1), 2 * 3);
+            holders(p, stays, 1, 1);
+            holders(p, goer, NONE, 0);
+            play(p, both + "0 " + goer + " at 0,0 deep 1;bars if helper<2 and beat=0 and figure=" + stays);
+            due(goer + " goes, passed", p.least(0), 0);
+            due(goer + " goes, ways", p.least(1), 3);
+            holders(p, stays, 2, 2);
+            holders(p, goer, 0, NONE);
+        }
     }
 
     private static void holders(ClothPlay p, int figure, int... want) {
@@ -398,6 +418,17 @@ public final class StageTermsTest extends Bench {
         }
         p.terms(2, 2);
         due("five of six", p.barred(1), 62);
+        // Any two of them are too far apart for the one helper: which two are left tells the order.
+        p.terms(2, 1);
+        p.terms(5, 0);
+        for (int f = 0; f < 6; f++) {
+            p.on(f, 11, f, 0, 1);
+        }
+        due("the last two of six", p.barred(1), 48);
+        p.off(5, 11);
+        due("the last two of five", p.barred(1), 24);
+        p.on(3, 11, 4, 0, 1);
+        due("the fifth is with the fourth", p.barred(1), 20);
     }
 
     // ---- IV: MADE
@@ -419,6 +450,10 @@ public final class StageTermsTest extends Bench {
         }
         told(p, 0b10101);
         due("three of four", p.made(15, 0), 4 * 6);
+        for (int f = 0; f < 3; f++) {
+            due("the first three, from the left, " + f, p.who(15, f, 1), 2 * f);
+        }
+        due("not the fourth", p.who(15, 3, 0), 0);
         told(p, 0b1010101);
         due("no four", p.made(15, 0), 0);
         due("only the cast", p.made(0, 0), 0);
@@ -522,6 +557,16 @@ public final class StageTermsTest extends Bench {
         due("two places", p.made(1, 0), 1);
         due("the lower x", p.who(1, 0, 1), 30);
         due("not the lower y", p.who(1, 0, 2), 15);
+        // Of an earlier SHEET's two SHADOWS of the second FIGURE the next SHEET has one.
+        p = with(1, 1, 1);
+        p.terms(0, 2);
+        outline(p, 0, 1);
+        outline(p, 1, 3);
+        outline(p, 2, 1);
+        told(p, 0b111);
+        due("an end by either, the rest by the second", p.made(7, 0), 4);
+        told(p, 0b101011);
+        due("the second on the left alone", p.made(7, 0), 2);
         foundAll();
     }
 
@@ -557,6 +602,28 @@ public final class StageTermsTest extends Bench {
         holes(1, 128);
         holes(128, 128);
         holes(8, 16);
+        for (int row = 0; row < 8; row++) {
+            comb(row, row / 2 * 2);
+        }
+    }
+
+    /** Four columns apart, of which two FIGURES leave out one CELL: one of many small SHADOWS must fill it. */
+    private static void comb(int row, int column) {
+        int[][] cells = {new int[8], new int[8], {1}, {1, 1}};
+        for (int j = 0; j < 8; j++) {
+            cells[0][j] = 0x55;
+            cells[1][j] = j == row ? 0x55 & ~(1 << column) : 0x55;
+        }
+        int[] rows = new int[16];
+        for (int r = 0; r < 16; r++) {
+            rows[r] = 0x55 << 16;
+        }
+        ClothPlay p = with(1, 1, 1, 1);
+        for (int f = 0; f < 4; f++) {
+            outline(p, f, cells[f]);
+        }
+        told(p, rows);
+        asAll(p, new Ways(cells, rows, 8));
     }
 
     /** Eight by eight CELLS, of which one FIGURE leaves out two that the others may fill, each in many places. */

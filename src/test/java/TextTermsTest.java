@@ -203,6 +203,9 @@ public final class TextTermsTest extends Bench {
         says("II. A PLAY is a TEXT on a TAPE of at most 400 bytes (none at first: no CLAUSE).");
         due("none at first", new ClothPlay().count(1), 0);
         taken("bars;" + " ".repeat(391) + "bars", 2);
+        for (String word : new String[] {"b", "bar", "barsi", "beats", "figur", "1", "?"}) {
+            fault(" ".repeat(400 - word.length()) + "^" + word);
+        }
         fault("bars;" + " ".repeat(391) + "^barz");
         ClothPlay p = new ClothPlay();
         for (int k = 1; k <= 20; k++) {
@@ -253,11 +256,20 @@ public final class TextTermsTest extends Bench {
         due("24 laws", play(last, "slip 100" + ";bars if x<0".repeat(23)), 24);
         last.on(0, 0, 0, 0, 1);
         due("the first of 24 tells", last.show(0), 1);
+        for (int k = 0; k < 12; k++) {
+            due("laws come anew", play(last, "slip 1" + "+1".repeat(48) + ";beat 0 0 at 0,0 deep 1"), 2);
+        }
+        due("nothing is left of the old ones", play(last, "slip 100 if x=0;beat 0 0 at 0,0 deep 1"), 2);
+        due("they tell", last.show(0), 1);
         due("24 places", play(last, "beat 0 0 off;".repeat(23) + "beat 11 0 at 0,0 deep 1"), 24);
         due("the last of them", last.of(0, 11, 0), 1);
         fault("^;bars");
         fault("bars;^");
         fault("bars ^bars");
+        for (String word : "figure helper other x y deep sticks to at off if or and not 0 1 ( [ bar passs beats".split(" ")) {
+            fault("^" + word + " 1");
+            fault("bars; ^" + word + " 1 if x<1");
+        }
 
         says("CLAUSE: \"beat\" BEAT [\"to\" BEAT] FIGURE (\"at\" X \",\" Y \"deep\" DEEP | \"off\")");
         String[] begun = {"beat", "beat 0", "beat 0 to", "beat 0 to 1", "beat 0 0", "beat 0 0 at", "beat 0 0 at 1",

@@ -557,6 +557,21 @@ public final class EdgesTest extends Bench {
             p.on(f, 1, 0, 0, 1);
         }
         due("six, any of four holders, staying", p.least(1), 4096 - 3 * (15 * 9 + 6 * 3 + 1));
+        p = with(1, 1, 1, 1, 1, 1);
+        p.terms(3, 1);
+        p.terms(4, 6);
+        String all = "pass 0";
+        for (int f = 0; f < 6; f++) {
+            all += ";beat 0 to 1 " + f + " at 0,0 deep 1";
+        }
+        play(p, all);
+        due("six, any of four holders, passed for nothing", p.least(1), 3634 * 3634);
+        play(p, all + ";pass 1;bars if beat=1 and helper<3");
+        due("six that end on the hooks, passed", p.least(0), 0);
+        due("six that end on the hooks, ways", p.least(1), 1);
+        play(p, all + ";pass 1;bars if beat=1 and helper<3;bars if beat=0 and helper=3");
+        due("six that come to the hooks, passed", p.least(0), 6);
+        due("six that come to the hooks, ways", p.least(1), 510);
     }
 
     private static int productOfHoldings(ClothPlay p) {

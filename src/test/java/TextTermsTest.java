@@ -256,6 +256,9 @@ public final class TextTermsTest extends Bench {
         due("24 laws", play(last, "slip 100" + ";bars if x<0".repeat(23)), 24);
         last.on(0, 0, 0, 0, 1);
         due("the first of 24 tells", last.show(0), 1);
+        due("24 laws of one head", play(last, "slip 0" + ";slip 0".repeat(22) + ";slip 100"), 24);
+        last.on(0, 0, 0, 0, 1);
+        due("the last of 24 tells", last.show(0), 1);
         for (int k = 0; k < 12; k++) {
             due("laws come anew", play(last, "slip 1" + "+1".repeat(48) + ";beat 0 0 at 0,0 deep 1"), 2);
         }

@@ -881,7 +881,15 @@ public final class ClothPlay {
                 return fail();
             }
             advance();
-            return readLevel(level, depth + 1) && take(closing);
+            if (!readLevel(level, depth + 1)) {
+                return false;
+            }
+            // Not by take(): calls would go nine deep from play() to the word that is read.
+            if (token != closing) {
+                return fail();
+            }
+            advance();
+            return true;
         }
 
         private boolean readPart(int depth) {

@@ -7,8 +7,10 @@ import java.nio.file.Path;
 import java.util.ArrayList;
 import java.util.Arrays;
 import java.util.List;
+import java.util.Map;
 import java.util.Random;
 import java.util.Set;
+import java.util.TreeMap;
 import java.util.TreeSet;
 import java.util.regex.Matcher;
 import java.util.regex.Pattern;
@@ -24,7 +26,9 @@ public final class RulesTest {
     public static void main(String[] args) throws IOException {
         face();
         names();
-        source(Files.readString(Path.of("src/main/java/ClothPlay.java")));
+        String text = Files.readString(Path.of("src/main/java/ClothPlay.java"));
+        source(text);
+        depths(text);
         extremes();
         room();
         System.out.println(wrong == 0 ? "the rules are kept" : wrong + " rules are not kept");
@@ -107,6 +111,65 @@ public final class RulesTest {
                 must(k - start < 60 || !lines[start].contains("(") || lines[k].length() == 5, "method at line " + (start + 1));
             }
         }
+    }
+
+    /** Rule 11: no row of calls in which each method stands once is longer than eight. */
+    private static void depths(String text) {
+        Map<String, Set<String>> called = callsIn(text);
+        must(called.size() > 100, "methods are found: " + called.size());
+        for (String start : called.keySet()) {
+            List<String> longest = longestFrom(start, called, new ArrayList<>());
+            must(longest.size() <= 8, "calls at most eight deep: " + longest);
+        }
+    }
+
+    /** By Class.method the methods it calls; behind a dot, where the class is not written, all with that name. */
+    private static Map<String, Set<String>> callsIn(String text) {
+        Map<String, String> bodies = new TreeMap<>();
+        String in = "ClothPlay";
+        String method = null;
+        for (String line : text.split("\n")) {
+            Matcher inner = Pattern.compile("^ {4}private static final class (\\w+) .*").matcher(line);
+            Matcher head = Pattern.compile("^( {4}| {8})(?:[a-z]+ )*[\\w\\[\\]]+ (\\w+)\\(.*\\) \\{$").matcher(line);
+            if (inner.matches()) {
+                in = inner.group(1);
+            } else if (head.matches() && head.group(1).length() == (in.equals("ClothPlay") ? 4 : 8)) {
+                method = in + "." + head.group(2);
+                bodies.put(method, "");
+            } else if (method != null) {
+                bodies.put(method, bodies.get(method) + line.replaceAll("//.*", "") + "\n");
+            }
+        }
+        Map<String, Set<String>> called = new TreeMap<>();
+        for (String from : bodies.keySet()) {
+            Set<String> to = new TreeSet<>();
+            Matcher call = Pattern.compile("(\\.?)\\b([a-z]\\w*)\\(").matcher(bodies.get(from));
+            while (call.find()) {
+                for (String other : bodies.keySet()) {
+                    boolean near = other.equals(from.substring(0, from.indexOf('.') + 1) + call.group(2))
+                        || other.equals("ClothPlay." + call.group(2));
+                    boolean far = !call.group(1).isEmpty() && other.endsWith("." + call.group(2));
+                    if (call.group(1).isEmpty() ? near : far) {
+                        to.add(other);
+                    }
+                }
+            }
+            called.put(from, to);
+        }
+        return called;
+    }
+
+    private static List<String> longestFrom(String at, Map<String, Set<String>> called, List<String> ahead) {
+        List<String> row = new ArrayList<>(ahead);
+        row.add(at);
+        List<String> longest = row;
+        for (String next : called.get(at)) {
+            if (!row.contains(next)) {
+                List<String> found = longestFrom(next, called, row);
+                longest = found.size() > longest.size() ? found : longest;
+            }
+        }
+        return longest;
     }
 
     /** No call throws, whatever it is given in whatever state. */
